@@ -95,7 +95,7 @@ public final class ActsTest {
 
     private static void noSuch() {
         HollowSteps x = all();
-        int[][] none = {{-1, 0}, {8, 0}, {0, -1}, {0, 4}, {Integer.MIN_VALUE, 0}, {0, Integer.MAX_VALUE}, {50, 0},
+        int[][] none = {{-1, 0}, {8, 0}, {0, -1}, {1, -1}, {7, -1}, {3, -2}, {0, 4}, {1, 4}, {5, 7}, {Integer.MIN_VALUE, 0}, {0, Integer.MAX_VALUE}, {50, 0},
             {49, 3}, {Integer.MAX_VALUE, Integer.MIN_VALUE}};
         for (int[] a : none) {
             x.act(0, TELLS, 1);

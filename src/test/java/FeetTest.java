@@ -111,6 +111,26 @@ public final class FeetTest {
         due.is("no measures", x.shares(1, 1, 0, 0), 0);
         due.is("no measures", x.shares(1, 1, 0, 1), 0);
         due.is("no measures", x.shares(1, 1, 0, 2), 0);
+        sharesByPathAndShoe();
+    }
+
+    /** Law 0 tells ups of shoe 6 at path 3 alone; law 1 the downs of it, by d itself. */
+    private static void sharesByPathAndShoe() {
+        HollowSteps x = stair(3, "(s=6)*(x=0)*!d", "(s=6)*(x=0)*d", "s=3");
+        depths(x, 1, 0, 0, 0, 9);
+        due.is("ups of shoe 6 at path 3", x.shares(0, 1, 36, 0), 9);
+        due.is("nothing is left", x.shares(0, 1, 36, 2), 0);
+        due.is("not shoe 3", x.shares(0, 1, 33, 2), 9);
+        due.is("not path 6", x.shares(0, 1, 63, 2), 9);
+        due.is("downs of it", x.shares(1, 1, 36, 1), 9);
+        due.is("another stair, up", x.other(0, 36), 9);
+        due.is("another stair, down", x.other(1, 36), -9);
+        due.is("another stair, shoe 3", x.other(0, 33), 0);
+        HollowSteps y = stair(1, "(s=6)*!d");
+        depths(y, 0, 1, 1, 1, 1, 1, 1, 1, 1);
+        due.is("depths of 1 are MEASURES", y.other(0, 16), 1);
+        depths(y, 0, 0, 0, 0, 0, 0, 0, 0, 0);
+        due.is("depths of 0 are none", y.other(0, 16), -2);
     }
 
     private static void sharesBad() {
@@ -213,6 +233,11 @@ public final class FeetTest {
         due.is("none told", x.fits(0, 0, 120, 0), 1);
         due.is("none told, the least", x.fits(0, 0, 120, 1), 0);
         due.is("none told, none fits", x.fits(0, 0, 119, 0), 0);
+        HollowSteps y = told(3);
+        depths(y, 0, 1);
+        due.is("a MEASURE of 1 counts", y.fits(0, 7, 29, 0), 4);
+        due.is("no set wears 1", y.fits(0, 7, 0, 0), 0);
+        due.is("and is the sum for none", y.best(0, 0, 1), 1);
         int[][] bad = {{2, 7, 0, 0}, {-1, 7, 0, 0}, {0, 8, 0, 0}, {0, -1, 0, 0}, {0, 7, -1, 0}, {0, 7, 100000, 0},
             {0, 7, 0, 2}, {0, 7, 0, -1}, {0, Integer.MIN_VALUE, 0, 0}, {0, Integer.MAX_VALUE, 0, 0}};
         for (int[] a : bad) {
@@ -330,6 +355,10 @@ public final class FeetTest {
     }
 
     private static void nextNot() {
+        HollowSteps little = stair(1, "(x=7)*4", "(x=8)*9");
+        little.story(15001501, 1000, 0);
+        due.is("they differ by 1", little.next(0, 0, 1), 0);
+        due.is("8 cells off nothing differs", little.next(1, 0, 1), -2);
         HollowSteps x = stair(1, "1");
         x.story(15001600, 1000, 0);
         due.is("next(0, 0, 1)", x.next(0, 0, 1), 0);
@@ -380,6 +409,10 @@ public final class FeetTest {
         due.is("one step", x.slipped(0, 0, 1), -2);
         x.step(10, 0, 5);
         due.is("like ones", x.slipped(0, 0, 0), -2);
+        x.step(10, 0, 6);
+        due.is("unlike by 1", x.slipped(0, 0, 0), 2);
+        x.mend(2, 1, 5);
+        due.is("no more", x.slipped(0, 0, 0), -2);
         due.is("not as said", x.slipped(0, 8, 0), -1);
     }
 }

@@ -10,6 +10,7 @@ public final class GateTest {
         changesThatAreNone();
         redoIsLost();
         fortyAtMost();
+        fortyOneByOne();
         undoBehindATurn();
         due.end();
     }
@@ -44,6 +45,14 @@ public final class GateTest {
             due.is("middle of " + (i + 1), x.gate(1), middles[i]);
         }
         due.is("not as said with counts", x.gate(2), -1);
+        HollowSteps near = new HollowSteps();
+        near.day(12);
+        near.day(11);
+        near.day(10);
+        due.is("counts side by side", near.gate(1), 11);
+        near.day(12);
+        near.day(12);
+        due.is("10 11 12 12 12", near.gate(1), 12);
     }
 
     private static void walk() {
@@ -150,6 +159,10 @@ public final class GateTest {
         }
         x.undo();
         x.undo();
+        HollowSteps first = stair();
+        first.mend(0, 1, 99);
+        first.undo();
+        due.is("the first, from another number than 0", first.of(0, 3), 70);
         x.mend(1, 1, 7);
         due.is("another came behind", x.redo(), -5);
         due.is("four to undo", x.count(5), 4);
@@ -191,6 +204,23 @@ public final class GateTest {
         due.is("undo", x.undo(), 39);
         due.is("of(0, 13)", x.of(0, 13), 35);
         due.is("of(1, 17)", x.of(1, 17), 0);
+    }
+
+    /** Each change has its own number before, so that every one that is undone tells whose it was. */
+    private static void fortyOneByOne() {
+        HollowSteps x = stair();
+        for (int v = 1; v <= 44; v++) {
+            x.depth(0, v);
+        }
+        for (int v = 43; v >= 4; v--) {
+            x.undo();
+            due.is("undone to " + v, x.of(0, 10), v);
+        }
+        due.is("the oldest that is kept", x.undo(), -5);
+        for (int v = 5; v <= 44; v++) {
+            x.redo();
+            due.is("done again to " + v, x.of(0, 10), v);
+        }
     }
 
     private static void undoBehindATurn() {

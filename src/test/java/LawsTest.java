@@ -254,6 +254,13 @@ public final class LawsTest {
         value("h=7?8;9", 9);
         value("1?9999+9;5", 9999);
         value("1?0-9;5", 0);
+        value("0|1?0|7;5", 1);
+        value("0|0?6;0|0?7;8|0", 1);
+        HollowSteps x = new HollowSteps();
+        x.step(10, 0, 1);
+        Texts.law(x, "1;2;3;4;5;6;7;8");
+        Texts.law(x, "0?9");
+        due.is("nothing is left of the LAW before", x.takes(1, 0, 0), 0);
     }
 
     private static void names() {

@@ -12,6 +12,15 @@ import java.util.Random;
 public final class RunsTest {
     private static final int RUNS = 400, CALLS = 512;
     private static final int[] FAR = {Integer.MIN_VALUE, Integer.MAX_VALUE, -1, -7, 1 << 30, 2000000001, 100000};
+    private static final List<List<String>> FOCI = List.of(
+            List.of("depth", "depth", "mend", "undo", "undo", "redo", "of"),
+            List.of("depth", "depth", "turn", "older", "shape", "rail", "renewed"),
+            List.of("depth", "depth", "shares", "other", "feet", "slipped", "mend"),
+            List.of("depth", "story", "worn", "led", "share", "next"),
+            List.of("depth", "depth", "story", "fits", "best", "next"),
+            List.of("row", "put", "put", "put", "shift", "shift", "element", "element", "depths", "keep", "taken"),
+            List.of("body", "act", "trace", "trace", "count", "keep", "taken"),
+            List.of("day", "gate", "gate", "walk", "takes", "takes"));
     private static final Due due = new Due("runs");
 
     private final Random chance;
@@ -19,11 +28,13 @@ public final class RunsTest {
     private final Plain other = new Plain();
     private final List<String> told = new ArrayList<>();
     private final int slackness; // one number in so many is off
+    private final List<String> focus; // half of the calls are of these
     private int calls;
 
     private RunsTest(long seed) {
         chance = new Random(seed);
         slackness = new int[] {4, 12, 60, 1000}[(int) (seed % 4)];
+        focus = FOCI.get((int) (seed / 4 % FOCI.size()));
     }
 
     public static void main(String[] args) throws Exception {
@@ -48,7 +59,8 @@ public final class RunsTest {
         }
         List<String> names = namesOfCalls();
         while (calls < CALLS) {
-            String name = names.get(chance.nextInt(names.size()));
+            boolean focused = chance.nextBoolean();
+            String name = focused ? focus.get(chance.nextInt(focus.size())) : names.get(chance.nextInt(names.size()));
             if (name.equals("law") || name.equals("feed") && chance.nextInt(3) > 0) {
                 lawBy(chance.nextBoolean() ? Texts.some(chance) : Texts.spoiled(chance));
             } else {

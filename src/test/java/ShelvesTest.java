@@ -66,8 +66,10 @@ public final class ShelvesTest {
         due.is("a refused one changes nothing", x.element(0, 7), 9);
         x.row(1, 3, 8);
         due.is("each shelf has its own", x.element(1, 7), 0);
+        x.put(0, 0, 9);
         x.row(0, 2, 8);
         due.is("0 again", x.element(0, 7), 0);
+        due.is("0 again at once", x.element(0, 0), 0);
     }
 
     private static void put() {
@@ -197,6 +199,10 @@ public final class ShelvesTest {
         }
         holds(x, 0, 0, 1, 2, 3, 4, 5);
         holds(x, 1, 10, 11, 12, 13, 14, 15);
+        x.row(5, 2, 6);
+        x.keep(5, 0);
+        due.is("a wear where a row of that sort was", x.shift(5, 0, 0, 0, 1), -12);
+        due.is("a wear where a row of that sort was", x.shift(0, 0, 5, 0, 1), -12);
     }
 
     private static void taken() {

@@ -156,6 +156,11 @@ public final class StepsTest {
     }
 
     private static void depthsThatEnd() {
+        HollowSteps zero = withRow(2, 5, 0, 7);
+        zero.depth(1, 9);
+        due.is("0 is a depth, too", zero.depths(0, 3, 0, 3), 3);
+        due.is("of(0, 11)", zero.of(0, 11), 0);
+        due.is("of(0, 12)", zero.of(0, 12), 7);
         HollowSteps x = withRow(2, 1, 2, 100000, 4, -1, 6);
         due.is("not so at once: too deep", x.depths(0, 3, 2, 8), 0);
         due.is("not so at once: below 0", x.depths(0, 3, 4, 8), 0);

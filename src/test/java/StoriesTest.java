@@ -131,6 +131,13 @@ public final class StoriesTest {
         due.is("the only one there", x.led(0, 7), 3);
         due.is("by the shoe", x.led(1, 0), 3);
         due.is("no wear", x.led(3, 0), -2);
+        HollowSteps little = stair();
+        little.story(15001501, 0, 0);
+        little.story(15001501, 1001, 200);
+        due.is("1 is above 0", little.worn(0, 3, 2), 2);
+        little.mend(0, 0, 4);
+        due.is("1 is above 0", little.worn(0, 7, 2), 1);
+        due.is("it leads", little.led(0, 7), 1);
         due.is("set later", x.led(0, 11), -2);
         due.is("led(4, 0)", x.led(4, 0), -1);
         due.is("led(-1, 0)", x.led(-1, 0), -1);
@@ -160,6 +167,7 @@ public final class StoriesTest {
         due.is("nothing is worn where it lay later", x.share(1, 1, 0), -2);
         x.story(15001600, 999999, 0);
         due.is("nothing of it", x.share(1, 0, 2), 0);
+        share1();
         HollowSteps y = stair();
         y.story(15001600, 10000, 0);
         y.story(15001600, 10000, 400);
@@ -170,6 +178,20 @@ public final class StoriesTest {
         for (int[] a : bad) {
             due.is("share(" + a[0] + ", " + a[1] + ", " + a[2] + ")", y.share(a[0], a[1], a[2]), -1);
         }
+    }
+
+    /** One unit off one cell is something, and there is no cell 8. */
+    private static void share1() {
+        HollowSteps x = new HollowSteps();
+        Texts.law(x, "(x=7)*4*!d");
+        Texts.law(x, "(x=8)*100");
+        Texts.law(x, "d*100");
+        x.step(10, 1500, 70);
+        x.story(15001501, 1000, 0);
+        x.story(15001501, 1, 0);
+        due.is("one unit is worn", x.share(0, 0, 0), 1000);
+        due.is("nothing 8 cells off", x.share(1, 0, 0), -2);
+        due.is("d is 1: 100 * 300 / 1000", x.worn(2, 0, 2), 30);
     }
 
     private static void shareOfMuch() {
