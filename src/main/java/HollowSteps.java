@@ -589,9 +589,9 @@ public final class HollowSteps {
 
     private long wornBySet(Law law, Step step, int cell, int bits) {
         long worn = 0;
-        for (int s = 0; s < storyCount; s++) {
+        for (int s = 0; s < stories.length; s++) {
             Story story = stories[s];
-            if ((bits >> s & 1) == 1 && story != null) {
+            if (story != null && (bits >> s & 1) == 1) {
                 worn += story.wornOff(law, step, cell);
             }
         }
@@ -639,9 +639,9 @@ public final class HollowSteps {
 
     private void weighCell(Law law, Step step, int cell, int bits) {
         sets.beginCell();
-        for (int s = 0; s < storyCount; s++) {
+        for (int s = 0; s < stories.length; s++) {
             Story story = stories[s];
-            if ((bits >> s & 1) == 1 && story != null) {
+            if (story != null && (bits >> s & 1) == 1) {
                 sets.addStory(story.wornOff(law, step, cell));
             }
         }
