@@ -170,6 +170,16 @@ final class EdgesOfFeet {
             MOST}) {
             x.refused(BAD, "feet", 0, 0, pss, 0);
         }
+        Asked y = x.another();
+        y.steps(1);
+        y.laws("(x=0)*(s+1)");
+        y.depths(0, 2520, 2520, 2520, 2520, 2520, 2520, 2520, 2520);
+        for (int path = 0; path < 8; path++) {
+            for (int shoe = 0; shoe < 10; shoe++) {
+                y.due(2520000 / (shoe + 1), "feet", 0, path, 100 * path + 11 * shoe, 0);
+            }
+            y.refused(NOT, "feet", 0, (path + 1) % 8, 100 * path + 99, 0);
+        }
         x.laws("0");
         x.refused(NOT, "feet", 1, 0, 799, 0);
         x.refused(BAD, "feet", 1, 0, 798, 0);
@@ -270,6 +280,19 @@ final class EdgesOfFeet {
         for (int ps : new int[] {-1, -10, LEAST, 80, 81, 90, 100, MOST}) {
             x.refused(BAD, "shares", 0, 0, ps, 0);
             x.refused(BAD, "other", 0, ps);
+        }
+        // At each PATH another MEASURE, for one shoe alone: 0, 3 or 9.
+        for (int shoe : new int[] {0, 3, 9}) {
+            Asked y = x.another();
+            y.steps(1);
+            y.laws("(x=0)*!d*(s=" + shoe + ")");
+            y.depths(0, 1, 2, 3, 4, 5, 6, 7, 8);
+            for (int ps = 0; ps < 80; ps++) {
+                int a = ps % 10 == shoe ? ps / 10 + 1 : 0;
+                y.due(a, "shares", 0, 0, ps, 0);
+                y.due(36 - a, "shares", 0, 0, ps, 2);
+                y.due(a, "other", 0, ps);
+            }
         }
     }
 

@@ -438,6 +438,10 @@ final class EdgesOfSets {
         slipped(x, "x*k+1", 51, 0);
         slipped(x, "s*k+1", 51, 0);
         slipped(x, "b*k+1", 51, 0);
+        slipped(x, "x*5+k+1", 51, 1000);
+        slipped(x, "s*5+k+1", 51, 1000);
+        slipped(x, "b*5+k+1", 51, 1000);
+        slipped(x, "d*5+k*6", 51, 1200);
         slipped(x, "h*k+1", 51, 2000);
         slipped(x, "w*k+1", 51, 1000);
     }

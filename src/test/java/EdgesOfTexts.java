@@ -67,11 +67,11 @@ final class EdgesOfTexts {
     }
 
     private static void line(Asked x) {
-        lawful(x, "h", "h?w", "0?0", "h|w?k|x", "h?w;k?x;d");
+        lawful(x, "h", "h?w", "0?0", "h|w?k|x", "h?w;k?x;d", "h?w|k", "h?w&k|x", "h|w?k;x|d?s|b", "h;w|k");
         fault(x, 0, "?", "?h");
         fault(x, 2, "h?", "h??", "h??w", "h?;w", "h;?w");
         fault(x, 3, "h?w?", "h?w?k", "(h)(?w)", "h;w(");
-        fault(x, 4, "h?w;?k");
+        fault(x, 4, "h?w;?k", "h?w|", "h?w|)", "h;w|");
         fault(x, 2, "(h?w)", "(h;w)");
         value(x, 5, "1?5;8", "2?5;8", "-1?5;8", "!0?5;8");
         value(x, 8, "0?5;8", "1-1?5;8");
@@ -168,6 +168,16 @@ final class EdgesOfTexts {
         fault(x, 1, "h ", "h +w", "h\n", "h\0", "1 2", "( h)", "! h", "- h");
         fault(x, 2, "h+ w", "h; w", "h? w", "h* w", "(h )");
         lawful(x, "h+w", "h;w", "h?w", "(h)");
+        // Each of all bytes behind a NAME and behind a digit.
+        for (char c = 0; c < 256; c++) {
+            boolean joins = "|&<=>+-*/%?;".indexOf(c) >= 0;
+            fault(x, joins ? 2 : 1, "h" + c);
+            if (c >= '0' && c <= '9') {
+                lawful(x, "1" + c);
+            } else {
+                fault(x, joins ? 2 : 1, "1" + c);
+            }
+        }
     }
 
     private static void sixOpen(Asked x) {
@@ -185,6 +195,10 @@ final class EdgesOfTexts {
         fault(x, 9, "(((((!h+!!w)))))", "(((((-h+-!w)))))");
         fault(x, 14, "((((((h))))))?", "((((((h))))))+");
         fault(x, 20, "((((((h))))))+(((((((w)))))))");
+        lawful(x, "((((((h))))))?((((((w))))));!!!!!!k?------x");
+        fault(x, 8, "h?!!!!!!!w", "h;-------w", "h?(((((((w)))))))");
+        fault(x, 10, "h?w;!!!!!!!k");
+        fault(x, 12, "h?w;k?!!!!!!!x");
         fault(x, 14, "!!!!!!h+!!!!!!!w");
     }
 
@@ -239,6 +253,7 @@ final class EdgesOfTexts {
         value(x, 1, "2|0", "0|2", "2|3", "-1|0", "2&3", "-1&-1", "1<2", "2=2", "2>1", "!0", "!!7");
         value(x, 0, "0|0", "2&0", "0&2", "0&0", "2<2", "3<2", "1=2", "2=1", "2>2", "1>2", "!1", "!2", "!-1");
         value(x, 9, "(2|0)+8", "(2&3)+8", "!0+8", "(1<2)+8", "(2=2)+8", "(2>1)+8");
+        value(x, 8, "(0|0)+8", "(2&0)+8", "(0&2)+8", "!1+8", "!-1+8", "(2<2)+8", "(1=2)+8", "(2>2)+8", "(1>2)+8");
     }
 
     private static void allIsWorkedOut(Asked x) {
@@ -251,5 +266,13 @@ final class EdgesOfTexts {
         value(x, 5, "5", "5;6", "5;6;7", "1?5;6", "-1?5;6", "9999?5", "0?4;5;6", "0?3;0?4;5", "0?3;1?5;0?6;7", "!1?6;5");
         value(x, 0, "0?5", "0?5;0?6", "0?5;0?6;0?7", "0;5", "1?0;5", "0?5;0;6", "2?0-9;5");
         value(x, 8, "h=6?8;9", "h=7?9;8", "b?9;8", "d?8;9", "h=5?1;h=6?8;h=6?9");
+        // A longer text ahead of it, LAW or not, leaves nothing in one where none counts.
+        x.steps(1);
+        x.laws("1;2;3;4;5;6;7;8");
+        x.feed("5;6;7;8;9;5;6;7;");
+        x.due(-116, "law");
+        x.laws("0?9");
+        x.due(0, "takes", 1, 0, 0);
+        x.due(1, "takes", 0, 0, 0);
     }
 }
