@@ -353,6 +353,11 @@ final class EdgesOfSets {
         x.refused(NOT, "next", 0, 2, 3);
         x.refused(NOT, "next", 0, 2, 2);
         x.refused(NOT, "next", 1, 0, 2);
+        // There is no CELL 8 off the PATH, neither above CELL 7 nor below CELL 0.
+        x.laws("(x>7)*99");
+        x.due(2, "story", 15001501, 4000, 700);
+        x.refused(NOT, "next", 2, 0, 2);
+        x.refused(NOT, "next", 2, 0, 4);
         for (int step = 0; step < 3; step++) {
             x.due(step, "next", 0, 0, 2);
             x.due(0, "depth", 10 * step, 1);

@@ -320,6 +320,7 @@ final class EdgesOfStories {
         x.steps(1);
         x.laws("(x<2)*10", "9999");
         x.due(0, "story", 15001501, 1000, 500);
+        x.due(0, "led", 0, 5);
         x.due(1, "story", 15001501, 2000, 500);
         x.due(2, "story", 15001501, 2000, 500);
         x.due(1, "led", 0, 5);
@@ -338,6 +339,8 @@ final class EdgesOfStories {
         y.laws("9999");
         y.due(0, "story", 2000, 998999, 0);
         y.due(1, "story", 2000, 999999, 0);
+        y.due(1, "led", 0, 0);
+        y.due(2, "story", 2000, 999999, 0);
         y.due(1, "led", 0, 0);
     }
 
@@ -427,5 +430,12 @@ final class EdgesOfStories {
         x.due(1000, "share", 0, 0, 1);
         x.due(0, "turn", 0, 1501);
         x.refused(NOT, "share", 0, 0, 1);
+        Asked y = x.another();
+        y.steps(1);
+        y.laws("(x>7)*99");
+        y.due(0, "story", 15001501, 4000, 0);
+        y.due(1, "story", 15001501, 4000, 700);
+        y.refused(NOT, "share", 0, 0, 0);
+        y.refused(NOT, "share", 0, 0, 1);
     }
 }

@@ -196,6 +196,10 @@ final class EdgesOfTexts {
         fault(x, 14, "((((((h))))))?", "((((((h))))))+");
         fault(x, 20, "((((((h))))))+(((((((w)))))))");
         lawful(x, "((((((h))))))?((((((w))))));!!!!!!k?------x");
+        // The longest TEXTS of such signs are worked out to their ends.
+        value(x, 15, "!!!!!!h+".repeat(14) + "!!!!!!h");
+        value(x, 90, "------h+".repeat(14) + "------h");
+        value(x, 7, "!!!!!h?h;".repeat(12) + "!!!!!!h?7;8");
         fault(x, 8, "h?!!!!!!!w", "h;-------w", "h?(((((((w)))))))");
         fault(x, 10, "h?w;!!!!!!!k");
         fault(x, 12, "h?w;k?!!!!!!!x");
