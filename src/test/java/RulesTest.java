@@ -1,163 +1,298 @@
-import java.lang.management.ManagementFactory;
-import java.lang.reflect.Constructor;
-import java.lang.reflect.Field;
-import java.lang.reflect.Method;
-import java.lang.reflect.Modifier;
-import java.nio.file.Files;
+import com.sun.source.tree.ArrayAccessTree;
+import com.sun.source.tree.AssertTree;
+import com.sun.source.tree.AssignmentTree;
+import com.sun.source.tree.BinaryTree;
+import com.sun.source.tree.BindingPatternTree;
+import com.sun.source.tree.BlockTree;
+import com.sun.source.tree.ClassTree;
+import com.sun.source.tree.CompoundAssignmentTree;
+import com.sun.source.tree.DoWhileLoopTree;
+import com.sun.source.tree.EnhancedForLoopTree;
+import com.sun.source.tree.ExpressionTree;
+import com.sun.source.tree.ForLoopTree;
+import com.sun.source.tree.IdentifierTree;
+import com.sun.source.tree.InstanceOfTree;
+import com.sun.source.tree.LambdaExpressionTree;
+import com.sun.source.tree.LiteralTree;
+import com.sun.source.tree.MemberReferenceTree;
+import com.sun.source.tree.MemberSelectTree;
+import com.sun.source.tree.MethodInvocationTree;
+import com.sun.source.tree.MethodTree;
+import com.sun.source.tree.NewArrayTree;
+import com.sun.source.tree.NewClassTree;
+import com.sun.source.tree.ParenthesizedTree;
+import com.sun.source.tree.SwitchTree;
+import com.sun.source.tree.SynchronizedTree;
+import com.sun.source.tree.ThrowTree;
+import com.sun.source.tree.Tree;
+import com.sun.source.tree.TryTree;
+import com.sun.source.tree.TypeCastTree;
+import com.sun.source.tree.UnaryTree;
+import com.sun.source.tree.VariableTree;
+import com.sun.source.tree.WhileLoopTree;
+import com.sun.source.util.TreePath;
 import java.nio.file.Path;
-import java.util.Arrays;
 import java.util.List;
 import java.util.Set;
 import java.util.TreeSet;
-import java.util.stream.Collectors;
+import javax.lang.model.element.Element;
+import javax.lang.model.element.ExecutableElement;
+import javax.lang.model.element.Modifier;
 
-/** The face of the document, and those rules of LANGUAGE.md that a look at the class can tell. */
+/** HollowSteps.java against ../shared/LANGUAGE.md, rule by rule: what its text can tell. */
 public final class RulesTest {
     private static final Due due = new Due("rules");
-    private static final String FACE = "int step(int,int,int)|int of(int,int)|int depth(int,int)|int mend(int,int,int)"
-            + "|int depths(int,int,int,int)|int turn(int,int)|int older(int)|int feed(int,int)|int law()"
-            + "|int takes(int,int,int)|int story(int,int,int)|int worn(int,int,int)|int led(int,int)"
-            + "|int share(int,int,int)|int shape(int,int)|int rail(int,int,int)|int feet(int,int,int,int)"
-            + "|int shares(int,int,int,int)|int other(int,int)|int renewed(int,int,int)|int fits(int,int,int,int)"
-            + "|int best(int,int,int)|int next(int,int,int)|int slipped(int,int,int)|int day(int)|int gate(int)"
-            + "|int walk(int,int)|int undo()|int redo()|int body(int)|int act(int,int,int)|int trace(int)"
-            + "|int keep(int,int)|int row(int,int,int)|int put(int,int,long)|long element(int,int)"
-            + "|int shift(int,int,int,int,int)|int taken(int,int)|int count(int)";
+    private static final Set<String> NUMBERS = Set.of("int", "long", "short", "byte", "char", "boolean");
+    private static final Set<String> LIBRARY = Set.of("java.lang.Math.max", "java.lang.Math.min", "java.lang.Math.abs",
+            "java.lang.Integer.bitCount", "java.lang.System.arraycopy", "java.lang.Object.<init>");
+    private static final List<Class<? extends Tree>> LOOPS = List.of(ForLoopTree.class, WhileLoopTree.class,
+            DoWhileLoopTree.class, EnhancedForLoopTree.class);
+
+    private final Source source;
+
+    private RulesTest(Source source) {
+        this.source = source;
+    }
 
     public static void main(String[] args) throws Exception {
-        face();
-        classes();
-        source();
-        room();
+        RulesTest test = new RulesTest(new Source(Path.of("src/main/java/HollowSteps.java")));
+        test.rule1();
+        test.rule2();
+        test.rule3();
+        test.rule4();
+        test.rule5();
+        test.rule6();
+        test.rule8();
+        test.rule9();
+        test.rule10();
+        test.rule11();
+        test.rule12();
         due.end();
     }
 
-    private static void face() throws Exception {
-        Class<?> face = HollowSteps.class;
-        due.is("public and final", face.getModifiers(), Modifier.PUBLIC | Modifier.FINAL);
-        due.is("one constructor", face.getDeclaredConstructors().length, 1);
-        Constructor<?> made = face.getDeclaredConstructors()[0];
-        due.holds("it is public and wants nothing", made.getModifiers() == Modifier.PUBLIC && made.getParameterCount() == 0);
-        Set<String> calls = new TreeSet<>();
-        for (Method m : face.getDeclaredMethods()) {
-            if (!Modifier.isPrivate(m.getModifiers())) {
-                String types = Arrays.stream(m.getParameterTypes()).map(Class::getName).collect(Collectors.joining(","));
-                calls.add(m.getReturnType() + " " + m.getName() + "(" + types + ")");
-            }
-        }
-        due.holds("the calls of the face: " + calls, calls.equals(new TreeSet<>(List.of(FACE.split("\\|")))));
-        List<String> names = List.of("BAD", "NOT", "FULL", "BIG", "STATE", "VOID");
-        int[] values = {-1, -2, -3, -4, -5, -2000000000};
-        int found = 0;
-        for (Field f : face.getDeclaredFields()) {
-            if (!Modifier.isPrivate(f.getModifiers())) {
-                due.is(f.getName() + " is a constant", f.getModifiers(), Modifier.PUBLIC | Modifier.STATIC | Modifier.FINAL);
-                due.is(f.getName(), f.getInt(null), values[names.indexOf(f.getName())]);
-                found++;
-            }
-        }
-        due.is("constants", found, 6);
+    // ---- what the rules share
+
+    private void none(int rule, Class<? extends Tree> sort) {
+        List<TreePath> found = source.all(sort);
+        String where = found.isEmpty() ? "" : source.shown(found.get(0));
+        due.holds("rule " + rule + ": no " + sort.getSimpleName() + " " + where, found.isEmpty());
     }
 
-    private static void classes() {
+    private void each(int rule, String wanted, TreePath path, boolean so) {
+        due.holds("rule " + rule + ": " + wanted + ": " + (so ? "" : source.shown(path)), so);
+    }
+
+    private static boolean isStatic(Element element) {
+        return element != null && element.getModifiers().contains(Modifier.STATIC);
+    }
+
+    private static boolean isField(Element element) {
+        return element != null && element.getKind().isField();
+    }
+
+    // ---- the rules
+
+    private void rule1() {
+        due.is("rule 1: no package line", source.unit.getPackageName() == null ? 0 : 1, 0);
+        due.is("rule 1: one class", source.unit.getTypeDecls().size(), 1);
         Set<String> open = new TreeSet<>();
-        for (Method m : HollowSteps.class.getDeclaredMethods()) {
-            if (Modifier.isPublic(m.getModifiers())) {
-                open.add(m.getName());
+        for (Element method : source.methods()) {
+            if (method.getModifiers().contains(Modifier.PUBLIC)) {
+                open.add(method.getSimpleName().toString());
             }
         }
-        Class<?>[] inside = HollowSteps.class.getDeclaredClasses();
-        due.holds("some twelve classes at most", inside.length < 12);
-        for (Class<?> c : inside) {
-            int m = c.getModifiers();
-            due.holds(c + " is static", Modifier.isStatic(m) && !Modifier.isPublic(m) && !Modifier.isProtected(m));
-            due.is(c + " has none inside", c.getDeclaredClasses().length, 0);
-            for (Method method : c.getDeclaredMethods()) {
-                due.holds(c + " has its own names: " + method.getName(), !open.contains(method.getName()));
-                due.holds(method + " wants seven at most", method.getParameterCount() <= 7);
-            }
-            fields(c);
-        }
-        for (Method method : HollowSteps.class.getDeclaredMethods()) {
-            boolean isPrivate = Modifier.isPrivate(method.getModifiers());
-            due.holds("private " + method.getName(), !isPrivate || !open.contains(method.getName()));
-            due.holds(method + " wants seven at most", method.getParameterCount() <= 7);
-        }
-        fields(HollowSteps.class);
-    }
-
-    private static void fields(Class<?> c) {
-        int own = 0;
-        for (Field f : c.getDeclaredFields()) {
-            if (Modifier.isStatic(f.getModifiers())) {
-                due.holds(f + " is final", Modifier.isFinal(f.getModifiers()));
-            } else {
-                own++;
-            }
-        }
-        due.holds(c + " has some twenty fields at most", own <= 20);
-    }
-
-    private static void source() throws Exception {
-        String text = Files.readString(Path.of("src/main/java/HollowSteps.java"));
-        due.holds("signs 0 to 127 alone", text.chars().allMatch(c -> c < 128));
-        String code = text.replaceAll("(?s)/\\*.*?\\*/", "").replaceAll("//[^\n]*", "");
-        for (String word : List.of("throw", "throws", "try", "catch", "synchronized", "assert", "import", "package",
-                "Object", "equals", "hashCode", "toString", "float", "double", "interface", "Exact", "volatile")) {
-            due.holds("no " + word, !code.matches("(?s).*\\b\\w*" + word + "\\b.*"));
-        }
-        due.holds("no lambdas", !code.contains("->") && !code.contains("::"));
-        due.holds("no texts joined by +", !code.contains("\""));
-        int start = -1;
-        String[] lines = code.split("\n");
-        for (int i = 0; i < lines.length; i++) {
-            if (lines[i].matches("( {4}| {8})\\S.*\\) \\{")) {
-                start = i;
-            }
-            if (start >= 0 && lines[i].matches("( {4}| {8})\\}")) {
-                due.holds("a short method: " + lines[start].trim(), i - start <= 60);
-                start = -1;
-            }
+        for (TreePath path : source.all(MethodTree.class)) {
+            Element method = source.elementOf(path);
+            boolean isOpen = method.getModifiers().contains(Modifier.PUBLIC);
+            each(1, "bears no public one's name", path, isOpen || Source.isConstructor((ExecutableElement) method) || !open.contains(method.getSimpleName().toString()));
+            each(1, "public in HollowSteps alone", path, !isOpen || Source.nameOf(method).startsWith("HollowSteps.")
+                    && Source.nameOf(method).lastIndexOf('.') == "HollowSteps".length());
         }
     }
 
-    /** Calls make next to nothing: what 512 of the dearest ones make stays below a few hundred elements. */
-    private static void room() {
-        HollowSteps x = new HollowSteps();
-        for (int s = 0; s < 40; s++) {
-            x.step(50, s, 50 + s % 7);
+    private void rule2() {
+        none(2, LambdaExpressionTree.class);
+        none(2, MemberReferenceTree.class);
+        ClassTree face = (ClassTree) source.unit.getTypeDecls().get(0);
+        for (TreePath path : source.all(ClassTree.class)) {
+            ClassTree inside = (ClassTree) path.getLeaf();
+            boolean nested = inside == face || Source.isInside(face, inside) && isStatic(source.elementOf(path));
+            each(2, "a static class of the file's one", path, nested);
         }
-        Texts.law(x, "d?9-x+k;h*(w|s>3)+7-x");
-        for (int s = 0; s < 10; s++) {
-            x.story(15001600 + 10 * s, 7005, 100 * (s % 8) + 11);
+        for (TreePath path : source.all(NewClassTree.class)) {
+            each(2, "no class without a name", path, ((NewClassTree) path.getLeaf()).getClassBody() == null);
         }
-        for (int sc = 0; sc < 400; sc++) {
-            x.depth(sc, sc * 13 % 700);
-        }
-        x.body(7);
-        x.row(0, 2, 60);
-        calls(x, 3);
-        long ahead = madeBytes();
-        calls(x, 64);
-        long behind = madeBytes();
-        due.holds("512 calls made " + (behind - ahead) + " bytes", behind - ahead < 8192);
     }
 
-    private static long madeBytes() {
-        com.sun.management.ThreadMXBean threads = (com.sun.management.ThreadMXBean) ManagementFactory.getThreadMXBean();
-        return threads.getThreadAllocatedBytes(Thread.currentThread().getId());
+    private void rule3() {
+        for (TreePath path : source.all(VariableTree.class)) {
+            each(3, "an allowed type", path, isAllowed(source.typeOf(path, ((VariableTree) path.getLeaf()).getType())));
+        }
+        for (TreePath path : source.all(MethodTree.class)) {
+            Tree answers = ((MethodTree) path.getLeaf()).getReturnType();
+            String type = answers == null ? "void" : source.typeOf(path, answers);
+            each(3, "an allowed answer", path, type.equals("void") || isAllowed(type));
+        }
+        for (TreePath path : source.all(LiteralTree.class)) {
+            Object value = ((LiteralTree) path.getLeaf()).getValue();
+            boolean small = !(value instanceof Character sign) || sign < 128;
+            each(3, "no fraction, no sign above 127", path, small && !(value instanceof Double || value instanceof Float));
+        }
+        due.holds("rule 3: signs 1 to 127 alone", source.text.chars().allMatch(c -> c > 0 && c < 128));
     }
 
-    private static void calls(HollowSteps x, int times) {
-        for (int n = 0; n < times; n++) {
-            x.other(0, 30);
-            x.best(0, 255, 1);
-            x.fits(0, 255, 900, 0);
-            x.next(0, 3, 5);
-            x.act(0, 3, n);
-            x.feed(4, 0x32312b31);
-            x.law();
-            x.row(0, 3, 60);
+    private static boolean isAllowed(String type) {
+        String of = type.endsWith("[]") ? type.substring(0, type.length() - 2) : type;
+        return NUMBERS.contains(of) || of.startsWith("HollowSteps.") && !of.contains("[");
+    }
+
+    private void rule4() {
+        due.is("rule 4: imports", source.unit.getImports().size(), 0);
+        for (Class<? extends Tree> sort : List.of(MethodInvocationTree.class, NewClassTree.class)) {
+            for (TreePath path : source.all(sort)) {
+                Element called = source.elementOf(path);
+                each(4, "in the library that may be used", path,
+                        Source.isOwn(called) || LIBRARY.contains(Source.nameOf(called)));
+            }
+        }
+    }
+
+    private void rule5() {
+        for (TreePath path : source.all(VariableTree.class)) {
+            Element field = source.elementOf(path);
+            if (isField(field) && isStatic(field)) {
+                each(5, "a constant", path, field.getModifiers().contains(Modifier.FINAL));
+                each(5, "written out", path, isWrittenOut(((VariableTree) path.getLeaf()).getInitializer()));
+            }
+        }
+        for (TreePath path : source.all(BlockTree.class)) {
+            each(5, "no block of its own in a class", path, !(path.getParentPath().getLeaf() instanceof ClassTree));
+        }
+        for (TreePath path : source.all(IdentifierTree.class)) {
+            Element named = source.elementOf(path);
+            if (isField(named) && isStatic(named) && named.asType().toString().endsWith("[]")) {
+                each(5, "a constant array is read alone", path, isRead(path.getParentPath()));
+            }
+        }
+    }
+
+    /** A row of numbers between braces, or what has no new row in it at all. */
+    private static boolean isWrittenOut(ExpressionTree initializer) {
+        if (initializer instanceof NewArrayTree row) {
+            return row.getInitializers() != null && row.getInitializers().stream().allMatch(RulesTest::isNumber);
+        }
+        return initializer != null && !(initializer instanceof NewClassTree || initializer instanceof MethodInvocationTree);
+    }
+
+    private static boolean isNumber(Tree part) {
+        return part instanceof LiteralTree || part instanceof UnaryTree minus && minus.getExpression() instanceof LiteralTree;
+    }
+
+    private static boolean isRead(TreePath use) {
+        if (use.getLeaf() instanceof MemberSelectTree select) {
+            return select.getIdentifier().contentEquals("length");
+        }
+        Tree user = use.getParentPath().getLeaf();
+        boolean changed = user instanceof AssignmentTree told && told.getVariable() == use.getLeaf()
+                || user instanceof CompoundAssignmentTree added && added.getVariable() == use.getLeaf()
+                || user instanceof UnaryTree counted && !(counted.getKind() == Tree.Kind.UNARY_MINUS);
+        return use.getLeaf() instanceof ArrayAccessTree && !changed;
+    }
+
+    private void rule6() {
+        for (Class<? extends Tree> sort : List.of(ThrowTree.class, TryTree.class, SynchronizedTree.class, AssertTree.class,
+                BindingPatternTree.class, InstanceOfTree.class)) {
+            none(6, sort);
+        }
+        for (TreePath path : source.all(TypeCastTree.class)) {
+            each(6, "casts among numbers alone", path, NUMBERS.contains("" + ((TypeCastTree) path.getLeaf()).getType()));
+        }
+        for (Element method : source.methods()) {
+            String name = method.getSimpleName().toString();
+            due.holds("rule 6: no " + name + " of its own", !Set.of("equals", "hashCode", "toString").contains(name));
+        }
+    }
+
+    private void rule8() {
+        Set<String> recursions = new TreeSet<>();
+        for (TreePath path : source.all(MethodTree.class)) {
+            Element method = source.elementOf(path);
+            if (source.isRecursion(method)) {
+                recursions.add(Source.nameOf(method));
+                each(8, "a recursion is private", path, method.getModifiers().contains(Modifier.PRIVATE));
+                boolean carried = ((ExecutableElement) method).getParameters().stream()
+                        .anyMatch(p -> p.getSimpleName().contentEquals("open"));
+                each(8, "a recursion carries how deep it is", path, carried);
+            }
+        }
+        due.holds("rule 8: recursions in the Reader and the Wears alone: " + recursions, !recursions.isEmpty() && recursions
+                .stream().allMatch(n -> n.startsWith("HollowSteps.Reader.read") || n.startsWith("HollowSteps.Wears.")));
+    }
+
+    private void rule9() {
+        none(9, DoWhileLoopTree.class);
+        for (TreePath path : source.all(ForLoopTree.class)) {
+            ForLoopTree loop = (ForLoopTree) path.getLeaf();
+            each(9, "a bound", path, hasBound(loop.getCondition()) && loop.getUpdate().size() == 1);
+        }
+        for (TreePath path : source.all(WhileLoopTree.class)) {
+            each(9, "a bound", path, hasBound(((WhileLoopTree) path.getLeaf()).getCondition()));
+        }
+    }
+
+    /** One of the conditions that must all hold compares with a bound. */
+    private static boolean hasBound(ExpressionTree condition) {
+        if (condition instanceof ParenthesizedTree inner) {
+            return hasBound(inner.getExpression());
+        }
+        if (!(condition instanceof BinaryTree both)) {
+            return false;
+        }
+        if (both.getKind() == Tree.Kind.CONDITIONAL_AND) {
+            return hasBound(both.getLeftOperand()) || hasBound(both.getRightOperand());
+        }
+        return both.getKind() == Tree.Kind.LESS_THAN || both.getKind() == Tree.Kind.LESS_THAN_EQUAL;
+    }
+
+    private void rule10() {
+        for (TreePath path : source.all(SwitchTree.class)) {
+            each(10, "a switch on an int", path, source.typeOf(path, ((SwitchTree) path.getLeaf()).getExpression()).equals("int"));
+        }
+        for (TreePath path : source.all(LiteralTree.class)) {
+            each(10, "no text to be joined", path, !(((LiteralTree) path.getLeaf()).getValue() instanceof String));
+        }
+    }
+
+    private void rule11() {
+        for (TreePath path : source.all(MethodTree.class)) {
+            MethodTree method = (MethodTree) path.getLeaf();
+            each(11, "seven parameters at most", path, method.getParameters().size() <= 7);
+            each(11, "some sixty lines at most", path, source.linesOf(method) <= 60);
+            int deep = source.depth(source.elementOf(path));
+            each(11, "calls go eight deep at most, here " + deep, path, deep <= 8);
+        }
+        List<TreePath> classes = source.all(ClassTree.class);
+        due.holds("rule 11: some twelve classes", classes.size() <= 12);
+        for (TreePath path : classes) {
+            long fields = source.elementOf(path).getEnclosedElements().stream().filter(e -> isField(e) && !isStatic(e)).count();
+            each(11, "some twenty fields", path, fields <= 20);
+        }
+    }
+
+    private void rule12() {
+        for (Class<? extends Tree> sort : List.of(NewClassTree.class, NewArrayTree.class)) {
+            for (TreePath path : source.all(sort)) {
+                MethodTree in = Source.around(path, MethodTree.class);
+                String name = in == null ? "" : in.getName().toString();
+                boolean looped = LOOPS.stream().anyMatch(loop -> Source.around(path, loop) != null);
+                each(12, "none is made in a loop", path, !looped || name.equals("<init>"));
+                each(12, "made by few", path, Set.of("", "<init>", "step", "story", "read").contains(name));
+            }
+        }
+        for (TreePath path : source.all(MethodInvocationTree.class)) {
+            MethodTree in = Source.around(path, MethodTree.class);
+            boolean making = in != null && in.getName().contentEquals("<init>");
+            each(12, "a constructor calls none of its own", path, !making || !Source.isOwn(source.elementOf(path)));
         }
     }
 }
