@@ -8,7 +8,7 @@ import java.util.List;
  * nothing and on one that is full; and the same calls give the same answers on another object.
  */
 public final class FarTest {
-    private static final long[] NUMBERS = {Integer.MIN_VALUE, -1, 0, 1, 39, Integer.MAX_VALUE};
+    private static final long[] NUMBERS = {Integer.MIN_VALUE, -1, 0, 1, 39, 90, Integer.MAX_VALUE};
     private static final Due due = new Due("far");
 
     private final List<Call> beginning;

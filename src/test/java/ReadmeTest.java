@@ -73,8 +73,8 @@ public final class ReadmeTest {
             if (call.matches()) {
                 String kept = call.group(1);
                 body.append(kept == null ? "" : "int " + kept + " = " + call.group(2) + ";\n");
-                body.append("answers.add(new Object[] {\"").append(call.group(2).replace("\"", "\\\"")).append("\", (long) ");
-                body.append(kept == null ? call.group(2) : kept).append(", ").append(call.group(3)).append("L});\n");
+                body.append("answers.add(new Object[] {\"").append(call.group(2).replace("\"", "\\\"")).append("\", Long.valueOf(");
+                body.append(kept == null ? call.group(2) : kept).append("), ").append(call.group(3)).append("L});\n");
                 asked++;
             } else {
                 due.holds("the answer is told of: " + line, !line.matches("((int|long) \\w+ = )?x\\..*"));

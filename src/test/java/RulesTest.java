@@ -168,10 +168,12 @@ public final class RulesTest {
         for (TreePath path : source.all(BlockTree.class)) {
             each(5, "no block of its own in a class", path, !(path.getParentPath().getLeaf() instanceof ClassTree));
         }
-        for (TreePath path : source.all(IdentifierTree.class)) {
-            Element named = source.elementOf(path);
-            if (isField(named) && isStatic(named) && named.asType().toString().endsWith("[]")) {
-                each(5, "a constant array is read alone", path, isRead(path.getParentPath()));
+        for (Class<? extends Tree> sort : List.of(IdentifierTree.class, MemberSelectTree.class)) {
+            for (TreePath path : source.all(sort)) {
+                Element named = source.elementOf(path);
+                if (isField(named) && isStatic(named) && named.asType().toString().endsWith("[]")) {
+                    each(5, "a constant array is read alone", path, isRead(path.getParentPath()));
+                }
             }
         }
     }
